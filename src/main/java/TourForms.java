@@ -17,18 +17,18 @@ public final class TourForms {
     private static final int STEPS_SPENT = 2;
 
     private final Board board;
-    private final Moves moves;
     private final TourSearch search;
     private final QueenSearch queenSearch;
     private final Rectangle rectangle;
     private int startCell;
 
     public TourForms(int width, int height) {
-        board = new Board(heldToSide(width), heldToSide(height));
-        moves = new Moves(board);
-        search = new TourSearch(moves);
-        queenSearch = new QueenSearch(board);
-        rectangle = new Rectangle(board);
+        int columns = heldToSide(width);
+        int rows = heldToSide(height);
+        board = new Board(columns, rows);
+        search = new TourSearch(columns, rows);
+        queenSearch = new QueenSearch(columns, rows);
+        rectangle = new Rectangle(columns, rows);
         startCell = 0;
     }
 
@@ -76,15 +76,15 @@ public final class TourForms {
         if (!isPiece(piece) || !board.hasCell(cell)) {
             return -1;
         }
-        return Long.bitCount(moves.reach(piece, cell) & board.freeCells());
+        return Long.bitCount(search.reach(piece, cell) & board.freeCells());
     }
 
     public int queens() {
-        return queenSearch.countWays();
+        return queenSearch.countWays(board.freeCells());
     }
 
     public int queen(int k, int column) {
-        return queenSearch.rowInWay(k, column);
+        return queenSearch.rowInWay(board.freeCells(), k, column);
     }
 
     public boolean given(int x, int y, int v) {
@@ -171,50 +171,10 @@ public final class TourForms {
         }
     }
 
-    /** To which cells each piece goes from each cell of the board, barred ones too. */
-    private static final class Moves {
-        private final long[] reaches = new long[PIECES * MOST_CELLS];
-
-        Moves(Board board) {
-            for (int y = 0; y < board.height; y++) {
-                for (int x = 0; x < board.width; x++) {
-                    addMovesFrom(board, reaches, x, y);
-                }
-            }
-        }
-
-        long reach(int piece, int cell) {
-            return isPiece(piece) && cell >= 0 && cell < MOST_CELLS ? reaches[piece * MOST_CELLS + cell] : 0L;
-        }
-
-        private static void addMovesFrom(Board board, long[] reaches, int x, int y) {
-            int from = board.cellAt(x, y);
-            if (from < 0 || from >= MOST_CELLS || reaches.length < PIECES * MOST_CELLS) {
-                return;
-            }
-            for (int right = -2; right <= 2; right++) {
-                for (int down = -2; down <= 2; down++) {
-                    int to = board.cellAt(x + right, y + down);
-                    for (int piece = 0; to >= 0 && piece < PIECES; piece++) {
-                        if (goes(piece, right * right + down * down)) {
-                            reaches[piece * MOST_CELLS + from] |= 1L << to;
-                        }
-                    }
-                }
-            }
-        }
-
-        private static boolean goes(int piece, int distanceSquared) {
-            if (piece == 0) {
-                return distanceSquared == 5;
-            }
-            return distanceSquared == 1 || piece == 1 && distanceSquared == 2;
-        }
-    }
-
     /** The search for a tour; it goes by turns, not by recursion, so that its steps alone bound it. */
     private static final class TourSearch {
-        private final Moves moves;
+        /** For each piece and cell the cells to which it goes from there, barred ones too, as bits. */
+        private final long[] reaches;
         private final int[] path = new int[MOST_CELLS];
         /** For each place of the path the ways on from it, in the order in which they are tried. */
         private final int[] waysOn = new int[MOST_CELLS * MOST_WAYS_ON];
@@ -226,8 +186,43 @@ public final class TourForms {
         private int made;
         private boolean found;
 
-        TourSearch(Moves moves) {
-            this.moves = moves;
+        TourSearch(int width, int height) {
+            reaches = reachesOn(width, height);
+        }
+
+        private static long[] reachesOn(int width, int height) {
+            long[] reaches = new long[PIECES * MOST_CELLS];
+            for (int y = 0; y < height && y < MOST_SIDE; y++) {
+                for (int x = 0; x < width && x < MOST_SIDE; x++) {
+                    for (int piece = 0; piece < PIECES; piece++) {
+                        reaches[piece * MOST_CELLS + x + width * y] = reachFrom(piece, x, y, width, height);
+                    }
+                }
+            }
+            return reaches;
+        }
+
+        private static long reachFrom(int piece, int x, int y, int width, int height) {
+            long reach = 0L;
+            for (int toY = Math.max(0, y - 2); toY <= y + 2 && toY < height; toY++) {
+                for (int toX = Math.max(0, x - 2); toX <= x + 2 && toX < width; toX++) {
+                    if (goes(piece, (toX - x) * (toX - x) + (toY - y) * (toY - y))) {
+                        reach |= 1L << (toX + width * toY);
+                    }
+                }
+            }
+            return reach;
+        }
+
+        private static boolean goes(int piece, int distanceSquared) {
+            if (piece == 0) {
+                return distanceSquared == 5;
+            }
+            return distanceSquared == 1 || piece == 1 && distanceSquared == 2;
+        }
+
+        long reach(int piece, int cell) {
+            return isPiece(piece) && cell >= 0 && cell < MOST_CELLS ? reaches[piece * MOST_CELLS + cell] : 0L;
         }
 
         void forget() {
@@ -282,7 +277,7 @@ public final class TourForms {
             if (length < 1 || length > MOST_CELLS) {
                 return false;
             }
-            return (moves.reach(piece, path[length - 1]) >>> path[0] & 1L) != 0L;
+            return (reach(piece, path[length - 1]) >>> path[0] & 1L) != 0L;
         }
 
         private void enter(int cell) {
@@ -320,13 +315,13 @@ public final class TourForms {
 
         /** Lists the ways on by their keys, which put the fewest ways on first and then the cell. */
         private int listWaysOn(int cell, int from) {
-            long left = moves.reach(piece, cell) & open;
+            long left = reach(piece, cell) & open;
             int many = Math.min(MOST_WAYS_ON, Long.bitCount(left));
             for (int i = 0; i < many; i++) {
                 long lowest = left & -left;
                 left ^= lowest;
                 int next = Long.bitCount(lowest - 1L);
-                int key = Long.bitCount(moves.reach(piece, next) & open) * MOST_CELLS + next;
+                int key = Long.bitCount(reach(piece, next) & open) * MOST_CELLS + next;
                 insertWayOn(key, from, i);
             }
             return many;
@@ -347,35 +342,47 @@ public final class TourForms {
 
     /** The ways to put queens, gone through in their order, column by column. */
     private static final class QueenSearch {
-        private final Board board;
+        private final int width;
+        private final int height;
         private final int[] rows = new int[MOST_SIDE];
+        private long free;
         private int waysSeen;
 
-        QueenSearch(Board board) {
-            this.board = board;
+        QueenSearch(int width, int height) {
+            this.width = Math.min(MOST_SIDE, width);
+            this.height = Math.min(MOST_SIDE, height);
         }
 
-        int countWays() {
+        int countWays(long freeCells) {
+            free = freeCells;
             waysSeen = 0;
             placeFrom(0, NO_WAY);
             return waysSeen;
         }
 
-        int rowInWay(int way, int column) {
-            if (way < 0 || column < 0 || column >= board.width || column >= MOST_SIDE) {
+        int rowInWay(long freeCells, int way, int column) {
+            if (way < 0 || column < 0 || column >= width) {
                 return -1;
             }
+            free = freeCells;
             waysSeen = 0;
             return placeFrom(0, way) ? rows[column] : -1;
         }
 
         /** Goes on until the way looked for stands in the rows: true; false when all are gone through. */
         private boolean placeFrom(int column, int way) {
-            if (column < 0 || column >= board.width || column >= MOST_SIDE) {
-                waysSeen++;
-                return waysSeen - 1 == way;
+            if (column < width) {
+                return placeIn(column, way);
             }
-            for (int row = 0; row < board.height; row++) {
+            waysSeen++;
+            return waysSeen - 1 == way;
+        }
+
+        private boolean placeIn(int column, int way) {
+            if (column < 0 || column >= width) {
+                return false;
+            }
+            for (int row = 0; row < height; row++) {
                 if (canStand(column, row)) {
                     rows[column] = row;
                     if (placeFrom(column + 1, way)) {
@@ -387,7 +394,7 @@ public final class TourForms {
         }
 
         private boolean canStand(int column, int row) {
-            if (!board.isFree(board.cellAt(column, row))) {
+            if ((free >>> (column + width * row) & 1L) == 0L) {
                 return false;
             }
             for (int other = 0; other < column && other < MOST_SIDE; other++) {
@@ -419,18 +426,15 @@ public final class TourForms {
         private final int[] possibleInRow = new int[MOST_SIDE];
         private boolean found;
 
-        Rectangle(Board board) {
-            cells = Math.min(MOST_CELLS, board.cells);
-            greatest = Math.max(board.width, board.height);
-            shorterSide = Math.min(board.width, board.height);
+        Rectangle(int width, int height) {
+            cells = Math.min(MOST_CELLS, width * height);
+            greatest = Math.max(width, height);
+            shorterSide = Math.min(width, height);
             all = (2 << greatest) - 2;
-            for (int y = 0; y < board.height; y++) {
-                for (int x = 0; x < board.width; x++) {
-                    int cell = board.cellAt(x, y);
-                    if (cell >= 0 && cell < MOST_CELLS) {
-                        columnOf[cell] = x;
-                        rowOf[cell] = y;
-                    }
+            for (int y = 0; y < height && y < MOST_SIDE; y++) {
+                for (int x = 0; x < width && x < MOST_SIDE; x++) {
+                    columnOf[x + width * y] = x;
+                    rowOf[x + width * y] = y;
                 }
             }
         }
@@ -518,13 +522,12 @@ public final class TourForms {
                 System.arraycopy(tried, 0, witness, 0, MOST_CELLS);
                 return 1;
             }
-            if (depth >= MOST_CELLS) {
-                return 0;
-            }
             int choices = choicesAt(cell);
-            if (Integer.bitCount(choices) > 1 && someNumberLacksPlaces()) {
-                return 0;
-            }
+            boolean inVain = depth >= MOST_CELLS || Integer.bitCount(choices) > 1 && someNumberLacksPlaces();
+            return inVain ? 0 : countWith(cell, choices, depth, most);
+        }
+
+        private int countWith(int cell, int choices, int depth, int most) {
             int count = 0;
             for (int v = 1; v <= greatest && count < most; v++) {
                 if ((choices >>> v & 1) != 0) {

@@ -53,6 +53,11 @@ public final class QueensTest {
             plain.bar(cell % 4, cell / 4, true);
             compare("barred to " + cell + ": ", x, plain);
         }
+        TourForms wide = new TourForms(6, 6);
+        PlainForms plainWide = new PlainForms(6, 6);
+        wide.bar(2, 5, true);
+        plainWide.bar(2, 5, true);
+        compare("six by six, one barred: ", wide, plainWide);
         TourForms between = new TourForms(3, 3);
         between.bar(1, 1, true);
         Due.due("a bar does not part queens", between.queens(), 0);
