@@ -140,9 +140,11 @@ public final class BoardEdgesTest {
         Due.due("bar(1, 1, false)", x.bar(1, 1, false), false);
         Due.due("tour(2, true, 9)", x.tour(2, true, 9), 0);
         Due.due("at(0)", x.at(0), 0);
-        Due.due("x.given(0, 0, 1)", x.given(0, 0, 1), true);
+        Due.due("given(0, 0, 1)", x.given(0, 0, 1), true);
         Due.tour("the older object's tour", old, 1, 0, 2);
         Due.rectangle("the older object's rectangle", old, 2, 2, 1, 1, 2);
+        Due.due("the older object's tour(1, false, 9)", old.tour(1, false, 9), 0);
+        Due.due("the older object's start", old.at(0), 1);
     }
 
     private static void promise2Barred() {

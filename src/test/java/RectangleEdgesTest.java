@@ -15,6 +15,7 @@ public final class RectangleEdgesTest {
         promise10TourStays();
         promise11Smallest();
         promise11Least();
+        promise11LesserNumbersLeaveNone();
         promise11AllGiven();
         promise11OneCellLeft();
         promise11NoneInARow();
@@ -237,6 +238,36 @@ public final class RectangleEdgesTest {
         given(x, 0, 0, 4, true);
         fill(x, true);
         Due.rectangle("the first, too", x, 4, 4, 1, 2, 3, 1, 2, 3, 4, 2, 3, 4, 1, 3, 4, 1, 2);
+    }
+
+    private static void promise11LesserNumbersLeaveNone() {
+        Due.sentence(11, "The least RECTANGLE (a number that leaves none is passed over)");
+        TourForms x = new TourForms(5, 5);
+        given(x, 4, 4, 1, true);
+        given(x, 1, 4, 4, true);
+        given(x, 2, 2, 1, true);
+        fill(x, true);
+        Due.rectangle("three given", x, 5,
+                1, 2, 3, 4, 5, 2, 1, 4, 5, 3, 3, 5, 1, 2, 4, 4, 3, 5, 1, 2, 5, 4, 2, 3, 1);
+        TourForms tall = new TourForms(2, 4);
+        given(tall, 0, 3, 1, true);
+        given(tall, 1, 3, 2, true);
+        fill(tall, true);
+        Due.rectangle("the last row given", tall, 2, 2, 1, 3, 4, 4, 3, 1, 2);
+        TourForms late = new TourForms(4, 3);
+        given(late, 3, 2, 4, true);
+        fill(late, true);
+        Due.rectangle("the last cell given", late, 4, 1, 2, 4, 3, 2, 4, 3, 1, 3, 1, 2, 4);
+        TourForms wide = new TourForms(4, 2);
+        given(wide, 1, 0, 2, true);
+        given(wide, 2, 0, 4, true);
+        given(wide, 3, 1, 3, true);
+        fill(wide, true);
+        Due.rectangle("1 and 3 are left for row 0", wide, 4, 3, 2, 4, 1, 1, 4, 2, 3);
+        TourForms two = new TourForms(3, 3);
+        given(two, 1, 1, 1, true);
+        fill(two, true);
+        Due.rectangle("the middle given", two, 3, 1, 2, 3, 3, 1, 2, 2, 3, 1);
     }
 
     private static TourForms allGiven(int... numbers) {

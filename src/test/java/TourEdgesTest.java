@@ -16,6 +16,7 @@ public final class TourEdgesTest {
         promise4StartBarred();
         promise4SingleCell();
         promise4TwoCells();
+        promise4AllCellsOfTheGreatestBoard();
         promise4FewestFirst();
         promise4LeastOfAlikeOnes();
         promise4NextWhenNoTourComes();
@@ -265,6 +266,30 @@ public final class TourEdgesTest {
         tour(leap, 0, true, 1, 0);
         Due.tour("of two cells", leap, 0, 5);
         tour(leap, 1, true, 1, 1);
+    }
+
+    private static void promise4AllCellsOfTheGreatestBoard() {
+        Due.sentence(4, "comes to each cell that is not barred just once; .. CLOSED (all 36 cells)");
+        TourForms x = new TourForms(6, 6);
+        x.start(2, 2);
+        tour(x, 0, true, 35, 0);
+        Due.tour("piece 0", x, 14, 1, 12, 25, 33, 29, 16, 5, 9, 17, 4, 8, 0, 13, 24, 20, 28, 32, 21, 10, 2, 6, 19,
+                30, 26, 34, 23, 15, 7, 3, 11, 22, 35, 27, 31, 18);
+        tour(x, 0, true, 34, 2);
+        x.start(4, 3);
+        tour(x, 1, true, 35, 0);
+        Due.tour("piece 1", x, 22, 17, 23, 29, 35, 34, 28, 33, 27, 32, 31, 30, 24, 18, 25, 26, 19, 12, 6, 0, 1, 2, 7,
+                13, 20, 21, 14, 8, 3, 4, 5, 11, 10, 9, 15, 16);
+        x.start(3, 5);
+        tour(x, 2, true, 35, 0);
+        Due.tour("piece 2", x, 33, 32, 31, 30, 24, 18, 12, 6, 0, 1, 2, 3, 4, 5, 11, 10, 9, 8, 7, 13, 14, 15, 16, 17,
+                23, 22, 21, 20, 19, 25, 26, 27, 28, 29, 35, 34);
+        x.start(2, 5);
+        tour(x, 0, true, 57543, 2);
+        made(x, 57543);
+        tour(x, 0, true, 57544, 0);
+        made(x, 57544);
+        Due.due("at(35)", x.at(35), 21);
     }
 
     private static void promise4FewestFirst() {
