@@ -195,7 +195,10 @@ public final class TourForms {
             for (int y = 0; y < height && y < MOST_SIDE; y++) {
                 for (int x = 0; x < width && x < MOST_SIDE; x++) {
                     for (int piece = 0; piece < PIECES; piece++) {
-                        reaches[piece * MOST_CELLS + x + width * y] = reachFrom(piece, x, y, width, height);
+                        int place = piece * MOST_CELLS + x + width * y;
+                        if (place >= 0 && place < reaches.length) {
+                            reaches[place] = reachFrom(piece, x, y, width, height);
+                        }
                     }
                 }
             }
@@ -407,8 +410,14 @@ public final class TourForms {
         }
     }
 
-    /** The rectangle of numbers; a set of numbers is held as bits 1 to the greatest. */
+    /**
+     * The rectangle of numbers; a set of numbers is held as bits 1 to the greatest, and the sets of all
+     * columns, or of all rows, stand side by side in one long.
+     */
     private static final class Rectangle {
+        private static final int BITS_OF_LINE = 8;
+        private static final long FIRST_BIT_OF_LINES = 0x010101010101L;
+
         private final int cells;
         private final int greatest;
         private final int shorterSide;
@@ -418,12 +427,11 @@ public final class TourForms {
         private final int[] tried = new int[MOST_CELLS];
         /** The last rectangle that a search filled up: a proof that what it began with can be. */
         private final int[] witness = new int[MOST_CELLS];
-        private final int[] columnOf = new int[MOST_CELLS];
-        private final int[] rowOf = new int[MOST_CELLS];
-        private final int[] usedInColumn = new int[MOST_SIDE];
-        private final int[] usedInRow = new int[MOST_SIDE];
-        private final int[] possibleInColumn = new int[MOST_SIDE];
-        private final int[] possibleInRow = new int[MOST_SIDE];
+        /** For each cell where the set of its column, and of its row, begins. */
+        private final int[] columnBegins = new int[MOST_CELLS];
+        private final int[] rowBegins = new int[MOST_CELLS];
+        private long usedInColumns;
+        private long usedInRows;
         private boolean found;
 
         Rectangle(int width, int height) {
@@ -433,8 +441,11 @@ public final class TourForms {
             all = (2 << greatest) - 2;
             for (int y = 0; y < height && y < MOST_SIDE; y++) {
                 for (int x = 0; x < width && x < MOST_SIDE; x++) {
-                    columnOf[x + width * y] = x;
-                    rowOf[x + width * y] = y;
+                    int cell = x + width * y;
+                    if (cell >= 0 && cell < MOST_CELLS) {
+                        columnBegins[cell] = BITS_OF_LINE * x;
+                        rowBegins[cell] = BITS_OF_LINE * y;
+                    }
                 }
             }
         }
@@ -496,10 +507,8 @@ public final class TourForms {
 
         /** Begins a search with what is given: false when two given numbers are against each other. */
         private boolean layGiven() {
-            for (int side = 0; side < MOST_SIDE; side++) {
-                usedInColumn[side] = 0;
-                usedInRow[side] = 0;
-            }
+            usedInColumns = 0L;
+            usedInRows = 0L;
             for (int cell = 0; cell < cells; cell++) {
                 tried[cell] = 0;
             }
@@ -560,38 +569,32 @@ public final class TourForms {
          * is not square finds out too late.
          */
         private boolean someNumberLacksPlaces() {
-            for (int side = 0; side < MOST_SIDE; side++) {
-                possibleInColumn[side] = usedInColumn[side];
-                possibleInRow[side] = usedInRow[side];
-            }
+            long possibleInColumns = usedInColumns;
+            long possibleInRows = usedInRows;
             for (int cell = 0; cell < cells; cell++) {
                 if (tried[cell] == 0) {
-                    int choices = choicesAt(cell);
-                    possibleInColumn[columnOf[cell]] |= choices;
-                    possibleInRow[rowOf[cell]] |= choices;
+                    long choices = choicesAt(cell);
+                    possibleInColumns |= choices << columnBegins[cell];
+                    possibleInRows |= choices << rowBegins[cell];
                 }
             }
             for (int v = 1; v <= greatest; v++) {
-                if (linesWith(possibleInColumn, v) < shorterSide || linesWith(possibleInRow, v) < shorterSide) {
+                if (linesWith(possibleInColumns, v) < shorterSide || linesWith(possibleInRows, v) < shorterSide) {
                     return true;
                 }
             }
             return false;
         }
 
-        private static int linesWith(int[] lines, int v) {
-            int count = 0;
-            for (int line : lines) {
-                count += line >>> v & 1;
-            }
-            return count;
+        private static int linesWith(long lines, int v) {
+            return Long.bitCount(lines >>> v & FIRST_BIT_OF_LINES);
         }
 
         private int choicesAt(int cell) {
             if (cell < 0 || cell >= MOST_CELLS) {
                 return 0;
             }
-            return all & ~(usedInColumn[columnOf[cell]] | usedInRow[rowOf[cell]]);
+            return all & ~(int) (usedInColumns >>> columnBegins[cell] | usedInRows >>> rowBegins[cell]);
         }
 
         private void put(int cell, int v) {
@@ -599,8 +602,8 @@ public final class TourForms {
                 return;
             }
             tried[cell] = v;
-            usedInColumn[columnOf[cell]] |= 1 << v;
-            usedInRow[rowOf[cell]] |= 1 << v;
+            usedInColumns |= 1L << (columnBegins[cell] + v);
+            usedInRows |= 1L << (rowBegins[cell] + v);
         }
 
         private void take(int cell, int v) {
@@ -608,8 +611,8 @@ public final class TourForms {
                 return;
             }
             tried[cell] = 0;
-            usedInColumn[columnOf[cell]] &= ~(1 << v);
-            usedInRow[rowOf[cell]] &= ~(1 << v);
+            usedInColumns &= ~(1L << (columnBegins[cell] + v));
+            usedInRows &= ~(1L << (rowBegins[cell] + v));
         }
     }
 }
